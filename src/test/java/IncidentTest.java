@@ -7,6 +7,7 @@ public final class IncidentTest {
         closing();
         telling();
         whatIsToldOfOne();
+        fullRooms();
         check.end();
     }
 
@@ -103,5 +104,32 @@ public final class IncidentTest {
         check.refused("what -1", Check.UNKNOWN, IncidentTest::oneOpenOneClosed, y -> y.incident(0, -1));
         check.refused("what 7", Check.UNKNOWN, IncidentTest::oneOpenOneClosed, y -> y.incident(0, 7));
         check.same("a closed one is told of", x.incident(1, 5), 1);
+    }
+
+    /** Every loop goes just to the end of its rows when there is no room left. */
+    private static void fullRooms() {
+        SecondWaves x = twelve();
+        x.top(4);
+        for (int i = 0; i < 20; i++) {
+            x.trigger(2, 20 - i, 4, 0);
+        }
+        for (int i = 0; i < 40; i++) {
+            x.unit(0);
+            x.go(i, i % 12, i);
+        }
+        check.same("all silences at all incidents", x.tick(20), 240);
+        check.same("the last one's step", x.incident(11, 0), 4);
+        check.same("its units", x.needed(11, 0), -3);
+        check.same("recalled", x.calm(11, 0), 3);
+        for (int i = 11; i > 0; i--) {
+            x.close(i);
+            check.same("closed", x.incident(i, 1), 0);
+        }
+        check.same("the first alone is above", Check.thrownBy(() -> x.top(3)).getName(), Check.STATE.getName());
+        check.same("the last unit of the first", Check.unitSeen(x, 36), "1 0 36 ");
+        x.close(0);
+        check.same("free", Check.unitSeen(x, 36), "0 -1 -1 ");
+        x.top(3);
+        check.same("nobody is left to act", x.tick(5000), 0);
     }
 }
