@@ -9,6 +9,8 @@ public final class CalmTest {
         eachSkillByItself();
         noRecallWithoutCalm();
         rowsNeedNotGrow();
+        fullRoom();
+        aroundTheCount();
         refusals();
         check.end();
     }
@@ -148,13 +150,53 @@ public final class CalmTest {
         return x;
     }
 
+    private static SecondWaves onStepZero() {
+        SecondWaves x = new SecondWaves();
+        x.begin();
+        x.unit(0);
+        x.go(0, 0, 9);
+        return x;
+    }
+
+    /** Forty units of one skill at one incident: just those above the row's count go back. */
+    private static void fullRoom() {
+        for (int kept : new int[] {0, 1, 29, 30}) {
+            SecondWaves x = onStepFive();
+            x.row(4, 7, kept);
+            for (int i = 0; i < 40; i++) {
+                x.unit(7);
+                x.go(i, 0, 99999 - i);
+            }
+            check.same("of forty, " + kept + " kept", x.calm(0, 4), 40 - kept);
+            check.same("none is too much now", x.needed(0, 7), 0);
+            for (int i = 0; i < 40; i++) {
+                check.same("the nearest stay, " + i, x.unitAt(i, 0), i < 40 - kept ? 0 : 1);
+            }
+            check.same("counted", x.count(2), 40 - kept);
+        }
+    }
+
+    /** Just enough, one too few and one too much. */
+    private static void aroundTheCount() {
+        for (int units = 1; units <= 3; units++) {
+            SecondWaves x = onStepFive();
+            x.row(0, 0, 2);
+            for (int i = 0; i < units; i++) {
+                x.unit(0);
+                x.go(i, 0, i);
+            }
+            check.same("two of " + units + " stay", x.calm(0, 0), units == 3 ? 1 : 0);
+            check.same("needed", x.needed(0, 0), units == 1 ? 1 : 0);
+        }
+    }
+
     private static void refusals() {
-        check.refused("incident -1", Check.UNKNOWN, CalmTest::refusing, x -> x.calm(-1, 0));
-        check.refused("incident 2", Check.UNKNOWN, CalmTest::refusing, x -> x.calm(2, 0));
-        check.refused("step -1", Check.UNKNOWN, CalmTest::refusing, x -> x.calm(0, -1));
-        check.refused("step 10", Check.UNKNOWN, CalmTest::refusing, x -> x.calm(0, 10));
+        check.refusedOutside("incident", Check.UNKNOWN, 0, 1, CalmTest::refusing, n -> x -> x.calm(n, 0));
+        check.refusedOutside("step", Check.UNKNOWN, 0, 9, CalmTest::refusing, n -> x -> x.calm(0, n));
+        check.refused("at 0 of none", Check.UNKNOWN, SecondWaves::new, x -> x.calm(0, 0));
         check.refused("closed", Check.STATE, CalmTest::refusing, x -> x.calm(1, 0));
-        check.refused("step before closed", Check.UNKNOWN, CalmTest::refusing, x -> x.calm(1, 10));
+        check.refusedOutside("step before closed", Check.UNKNOWN, 0, 9, CalmTest::refusing, n -> x -> x.calm(1, n));
+        check.refused("on step 0", Check.STATE, CalmTest::onStepZero, x -> x.calm(0, 0));
         check.refused("the same step", Check.STATE, CalmTest::refusing, x -> x.calm(0, 5));
         check.refused("a step above", Check.STATE, CalmTest::refusing, x -> x.calm(0, 6));
         check.refused("a step above the top", Check.STATE, CalmTest::refusing, x -> x.calm(0, 9));

@@ -110,16 +110,18 @@ final class Check {
         return x.unitAt(unit, 0) + " " + x.unitAt(unit, 1) + " " + x.unitAt(unit, 2) + " ";
     }
 
-    /** What some 320 later calls at incident 0 answer: they bring out the top, rows, triggers, spans and rooms. */
+    /** What some 220 later calls at incident 0 answer: they bring out the top, rows, triggers, spans and rooms. */
     static String later(SecondWaves x) {
         StringBuilder all = new StringBuilder();
-        for (int w = 0; w < 100; w += 33) {
+        for (int w = 0; w < 100; w += 11) {
             int word = w;
             add(all, () -> x.word(0, word));
         }
         add(all, () -> x.hurt(0, 10000));
-        stepsLater(x, all);
+        add(all, () -> x.ask(0, 9));
+        add(all, () -> x.incident(0, 0));
         add(all, () -> done(() -> x.top(9)));
+        add(all, () -> x.calm(0, 0));
         stepsLater(x, all);
         for (int i = 0; i < 10; i++) {
             int seconds = 1 + i * i * i;
@@ -140,7 +142,7 @@ final class Check {
         return all.toString();
     }
 
-    /** Ask 0 .. 9, where triggers make stairs of them, goes up to the top past every row. */
+    /** Ask 0 .. 9, where triggers make stairs of them, goes up past every row. */
     private static void stepsLater(SecondWaves x, StringBuilder all) {
         for (int a = 0; a < 10; a++) {
             int ask = a;

@@ -8,8 +8,11 @@ public final class CountTest {
         check.same("words that no trigger has", x.count(1), 3);
         check.same("units that were recalled", x.count(2), 2);
         check.same("triggers that acted without the step going up", x.count(3), 4);
-        check.refused("what -1", Check.UNKNOWN, CountTest::busy, y -> y.count(-1));
-        check.refused("what 4", Check.UNKNOWN, CountTest::busy, y -> y.count(4));
+        check.refusedOutside("what", Check.UNKNOWN, 0, 3, CountTest::busy, n -> y -> y.count(n));
+        check.refusedOutside("what of a new one", Check.UNKNOWN, 0, 3, SecondWaves::new, n -> y -> y.count(n));
+        for (int what = 0; what < 4; what++) {
+            check.same("at first, " + what, new SecondWaves().count(what), 0);
+        }
         twoObjectsAreApart();
         check.end();
     }

@@ -2,16 +2,20 @@ import java.lang.reflect.Field;
 import java.lang.reflect.Method;
 import java.lang.reflect.Modifier;
 import java.util.Arrays;
+import java.util.List;
 import java.util.TreeSet;
 
 /** The public face is the document's and nothing else. */
 public final class FaceTest {
+    /** Behind each call what it may throw: U unknown, R range, S state, F no room. */
     private static final String[] FACE = {
-        "void row(int,int,int)", "void top(int)", "int trigger(int,int,int,int)", "int begin()", "void close(int)",
-        "int tick(int)", "int word(int,int)", "int hurt(int,int)", "int ask(int,int)", "void tell(int)",
-        "int calm(int,int)", "int unit(int)", "void go(int,int,int)", "void arrive(int)", "int needed(int,int)",
-        "int incident(int,int)", "int unitAt(int,int)", "int acted(int)", "int count(int)",
+        "void row(int,int,int) UR", "void top(int) US", "int trigger(int,int,int,int) URF", "int begin() F",
+        "void close(int) US", "int tick(int) R", "int word(int,int) URS", "int hurt(int,int) URS",
+        "int ask(int,int) URS", "void tell(int) US", "int calm(int,int) US", "int unit(int) UF",
+        "void go(int,int,int) URS", "void arrive(int) US", "int needed(int,int) US", "int incident(int,int) U",
+        "int unitAt(int,int) U", "int acted(int) U", "int count(int) U",
     };
+    private static final List<Class<?>> THROWN = List.of(Check.UNKNOWN, Check.RANGE, Check.STATE, Check.ROOM);
 
     public static void main(String[] args) {
         Check check = new Check();
@@ -45,6 +49,10 @@ public final class FaceTest {
         for (Class<?> type : method.getParameterTypes()) {
             text.append(text.charAt(text.length() - 1) == '(' ? "" : ",").append(type);
         }
-        return text.append(')').toString();
+        text.append(") ");
+        for (Class<?> thrown : method.getExceptionTypes()) {
+            text.append("URSF".charAt(THROWN.indexOf(thrown)));
+        }
+        return text.toString();
     }
 }

@@ -6,6 +6,8 @@ public final class HappeningTest {
         words();
         hurtFromBelow();
         asks();
+        fullRooms();
+        noTriggers();
         kindsDoNotMix();
         refusals();
         check.end();
@@ -82,6 +84,44 @@ public final class HappeningTest {
         check.same("up", x.incident(0, 5), 1);
     }
 
+    /** With every room full the last trigger acts at the last incident, and none at a thirteenth. */
+    private static SecondWaves full() {
+        SecondWaves x = new SecondWaves();
+        x.top(9);
+        for (int i = 0; i < 20; i++) {
+            x.trigger(new int[] {0, 1, 3}[i % 3], 9, i / 2, 0);
+        }
+        for (int i = 0; i < 12; i++) {
+            x.begin();
+        }
+        return x;
+    }
+
+    private static void fullRooms() {
+        SecondWaves x = full();
+        check.same("words", x.word(11, 9), 7);
+        check.same("hurt", x.hurt(11, 9), 7);
+        check.same("asks", x.ask(11, 9), 6);
+        check.same("the last trigger's step", x.incident(11, 0), 9);
+        check.same("a neighbour", x.incident(10, 4), 0);
+        check.refusedOutside("word", Check.UNKNOWN, 0, 11, HappeningTest::full, n -> y -> y.word(n, 9));
+        check.refusedOutside("hurt", Check.UNKNOWN, 0, 11, HappeningTest::full, n -> y -> y.hurt(n, 9));
+        check.refusedOutside("ask", Check.UNKNOWN, 0, 11, HappeningTest::full, n -> y -> y.ask(n, 9));
+    }
+
+    /** Without any trigger nothing acts, and every word is one that no trigger has. */
+    private static void noTriggers() {
+        SecondWaves x = new SecondWaves();
+        x.begin();
+        check.same("word 0", x.word(0, 0), 0);
+        check.same("word 99", x.word(0, 99), 0);
+        check.same("hurt", x.hurt(0, 10000), 0);
+        check.same("ask 0", x.ask(0, 0), 0);
+        check.same("ask 9", x.ask(0, 9), 0);
+        check.same("tick", x.tick(5000), 0);
+        check.same("words, not asks", x.count(1), 2);
+    }
+
     private static void kindsDoNotMix() {
         SecondWaves x = new SecondWaves();
         x.top(9);
@@ -113,13 +153,13 @@ public final class HappeningTest {
         }
         for (int incident = 0; incident < 2; incident++) {
             int at = incident;
-            check.refused("word 100", Check.RANGE, HappeningTest::world, x -> x.word(at, 100));
-            check.refused("word -1", Check.RANGE, HappeningTest::world, x -> x.word(at, -1));
-            check.refused("hurt 10,001", Check.RANGE, HappeningTest::world, x -> x.hurt(at, 10001));
-            check.refused("hurt -1", Check.RANGE, HappeningTest::world, x -> x.hurt(at, -1));
-            check.refused("ask 10", Check.RANGE, HappeningTest::world, x -> x.ask(at, 10));
-            check.refused("ask -1", Check.RANGE, HappeningTest::world, x -> x.ask(at, -1));
+            check.refusedOutside("word", Check.RANGE, 0, 99, HappeningTest::world, n -> x -> x.word(at, n));
+            check.refusedOutside("hurt", Check.RANGE, 0, 10000, HappeningTest::world, n -> x -> x.hurt(at, n));
+            check.refusedOutside("ask", Check.RANGE, 0, 9, HappeningTest::world, n -> x -> x.ask(at, n));
         }
+        check.refused("word at 0 of none", Check.UNKNOWN, SecondWaves::new, x -> x.word(0, 0));
+        check.refused("hurt at 0 of none", Check.UNKNOWN, SecondWaves::new, x -> x.hurt(0, 0));
+        check.refused("ask at 0 of none", Check.UNKNOWN, SecondWaves::new, x -> x.ask(0, 0));
         check.refused("word at a closed one", Check.STATE, HappeningTest::world, x -> x.word(1, 7));
         check.refused("no trigger's word at a closed one", Check.STATE, HappeningTest::world, x -> x.word(1, 0));
         check.refused("hurt at a closed one", Check.STATE, HappeningTest::world, x -> x.hurt(1, 5));

@@ -67,10 +67,14 @@ public final class IncidentTest {
         check.same("it may go again", Check.unitSeen(x, 1), "1 2 1 ");
         check.same("a closed one keeps its step", x.incident(1, 0), 4);
         check.same("closing is no step down", x.incident(1, 6), 0);
-        check.refused("close -1", Check.UNKNOWN, IncidentTest::oneOpenOneClosed, y -> y.close(-1));
-        check.refused("close 2", Check.UNKNOWN, IncidentTest::oneOpenOneClosed, y -> y.close(2));
-        check.refused("close 12", Check.UNKNOWN, IncidentTest::twelve, y -> y.close(12));
+        check.refusedOutside("close", Check.UNKNOWN, 0, 1, IncidentTest::oneOpenOneClosed, n -> y -> y.close(n));
+        check.refusedOutside("close", Check.UNKNOWN, 0, 11, IncidentTest::twelve, n -> y -> y.close(n));
+        check.refused("close 0 of none", Check.UNKNOWN, SecondWaves::new, y -> y.close(0));
         check.refused("close again", Check.STATE, IncidentTest::oneOpenOneClosed, y -> y.close(1));
+        SecondWaves last = twelve();
+        last.close(11);
+        check.same("the last is closed", last.incident(11, 1), 0);
+        check.same("its neighbour is open", last.incident(10, 1), 1);
     }
 
     private static void telling() {
@@ -80,8 +84,9 @@ public final class IncidentTest {
         x.tell(0);
         check.same("told at 10", x.incident(0, 3), 10);
         check.same("not at the other", x.incident(2, 3), 7);
-        check.refused("tell -1", Check.UNKNOWN, IncidentTest::oneOpenOneClosed, y -> y.tell(-1));
-        check.refused("tell 2", Check.UNKNOWN, IncidentTest::oneOpenOneClosed, y -> y.tell(2));
+        check.refusedOutside("tell", Check.UNKNOWN, 0, 1, IncidentTest::oneOpenOneClosed, n -> y -> y.tell(n));
+        check.refusedOutside("tell", Check.UNKNOWN, 0, 11, IncidentTest::twelve, n -> y -> y.tell(n));
+        check.refused("tell 0 of none", Check.UNKNOWN, SecondWaves::new, y -> y.tell(0));
         check.refused("tell a closed one", Check.STATE, IncidentTest::oneOpenOneClosed, y -> y.tell(1));
     }
 
@@ -99,11 +104,16 @@ public final class IncidentTest {
         for (int what = 0; what < 7; what++) {
             check.same("incident(0, " + what + ")", x.incident(0, what), due[what]);
         }
-        check.refused("incident -1", Check.UNKNOWN, IncidentTest::oneOpenOneClosed, y -> y.incident(-1, 0));
-        check.refused("incident 2", Check.UNKNOWN, IncidentTest::oneOpenOneClosed, y -> y.incident(2, 0));
-        check.refused("what -1", Check.UNKNOWN, IncidentTest::oneOpenOneClosed, y -> y.incident(0, -1));
-        check.refused("what 7", Check.UNKNOWN, IncidentTest::oneOpenOneClosed, y -> y.incident(0, 7));
-        check.same("a closed one is told of", x.incident(1, 5), 1);
+        check.refusedOutside("incident", Check.UNKNOWN, 0, 1, IncidentTest::oneOpenOneClosed,
+                n -> y -> y.incident(n, 0));
+        check.refusedOutside("incident", Check.UNKNOWN, 0, 11, IncidentTest::twelve, n -> y -> y.incident(n, 6));
+        check.refusedOutside("what", Check.UNKNOWN, 0, 6, IncidentTest::oneOpenOneClosed, n -> y -> y.incident(0, n));
+        check.refusedOutside("what of a closed one", Check.UNKNOWN, 0, 6, IncidentTest::oneOpenOneClosed,
+                n -> y -> y.incident(1, n));
+        int[] closed = {4, 0, 0, 0, 1, 1, 0};
+        for (int what = 0; what < 7; what++) {
+            check.same("a closed one is told of, " + what, x.incident(1, what), closed[what]);
+        }
     }
 
     /** Every loop goes just to the end of its rows when there is no room left. */

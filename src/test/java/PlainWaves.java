@@ -119,9 +119,9 @@ public final class PlainWaves {
         for (int i = 0; i < seconds; i++) {
             now++;
             for (int t = 0; t < triggers.size(); t++) {
-                for (int n = 0; n < incidents.size(); n++) {
+                for (int n = 0; triggers.get(t)[0] == 2 && n < incidents.size(); n++) {
                     Incident at = incidents.get(n);
-                    if (triggers.get(t)[0] == 2 && at.open && now - at.row == triggers.get(t)[1]) {
+                    if (at.open && now - at.row == triggers.get(t)[1]) {
                         tryTrigger(n, t);
                     }
                 }

@@ -5,6 +5,7 @@ public final class ScaleTest {
     public static void main(String[] args) {
         newObject();
         rows();
+        rowsAboveTheTop();
         rowRefusals();
         theTop();
         topRefusals();
@@ -57,6 +58,15 @@ public final class ScaleTest {
         check.same("the least, told anew", x.needed(0, 7), 0);
     }
 
+    /** A step above the top has a row, too: it is seen when the top is. */
+    private static void rowsAboveTheTop() {
+        SecondWaves x = stairs();
+        x.row(9, 7, 30);
+        x.top(9);
+        x.ask(0, 9);
+        check.same("a row told while the top was 0", x.needed(0, 7), 30);
+    }
+
     private static SecondWaves oneRow() {
         SecondWaves x = stairs();
         x.row(0, 0, 4);
@@ -65,12 +75,10 @@ public final class ScaleTest {
     }
 
     private static void rowRefusals() {
-        check.refused("step -1", Check.UNKNOWN, ScaleTest::oneRow, x -> x.row(-1, 0, 1));
-        check.refused("step 10", Check.UNKNOWN, ScaleTest::oneRow, x -> x.row(10, 0, 1));
-        check.refused("skill -1", Check.UNKNOWN, ScaleTest::oneRow, x -> x.row(0, -1, 1));
-        check.refused("skill 8", Check.UNKNOWN, ScaleTest::oneRow, x -> x.row(0, 8, 1));
-        check.refused("count -1", Check.RANGE, ScaleTest::oneRow, x -> x.row(0, 0, -1));
-        check.refused("count 31", Check.RANGE, ScaleTest::oneRow, x -> x.row(0, 0, 31));
+        check.refusedOutside("step", Check.UNKNOWN, 0, 9, ScaleTest::oneRow, n -> x -> x.row(n, 0, 1));
+        check.refusedOutside("skill", Check.UNKNOWN, 0, 7, ScaleTest::oneRow, n -> x -> x.row(0, n, 1));
+        check.refusedOutside("count", Check.RANGE, 0, 30, ScaleTest::oneRow, n -> x -> x.row(0, 0, n));
+        check.refusedOutside("count of the last", Check.RANGE, 0, 30, ScaleTest::oneRow, n -> x -> x.row(9, 7, n));
         check.refused("unknown step before count", Check.UNKNOWN, ScaleTest::oneRow, x -> x.row(10, 0, 31));
         check.refused("unknown skill before count", Check.UNKNOWN, ScaleTest::oneRow, x -> x.row(0, 8, -1));
     }
@@ -107,10 +115,32 @@ public final class ScaleTest {
         return x;
     }
 
+    private static SecondWaves twelveWithOneAbove(int above) {
+        SecondWaves x = stairs();
+        for (int i = 1; i < 12; i++) {
+            x.begin();
+        }
+        x.top(1);
+        x.ask(above, 1);
+        return x;
+    }
+
+    private static SecondWaves lastOfTwelveAbove() {
+        return twelveWithOneAbove(11);
+    }
+
+    private static SecondWaves firstOfTwelveAbove() {
+        return twelveWithOneAbove(0);
+    }
+
     private static void topRefusals() {
-        check.refused("top -1", Check.UNKNOWN, ScaleTest::onStepThree, x -> x.top(-1));
-        check.refused("top 10", Check.UNKNOWN, ScaleTest::onStepThree, x -> x.top(10));
-        check.refused("an incident above", Check.STATE, ScaleTest::onStepThree, x -> x.top(2));
+        check.refusedOutside("no such step, before the one above", Check.UNKNOWN, 0, 9, ScaleTest::onStepThree,
+                n -> x -> x.top(n));
+        check.refusedOutside("no such step", Check.UNKNOWN, 0, 9, SecondWaves::new, n -> x -> x.top(n));
+        check.refused("an incident one above", Check.STATE, ScaleTest::onStepThree, x -> x.top(2));
+        check.refused("an incident far above", Check.STATE, ScaleTest::onStepThree, x -> x.top(0));
+        check.refused("the last of twelve alone above", Check.STATE, ScaleTest::lastOfTwelveAbove, x -> x.top(0));
+        check.refused("the first of twelve alone above", Check.STATE, ScaleTest::firstOfTwelveAbove, x -> x.top(0));
         SecondWaves x = onStepThree();
         Check.thrownBy(() -> x.top(2));
         Check.thrownBy(() -> x.top(10));
@@ -122,5 +152,10 @@ public final class ScaleTest {
         x.top(2);
         x.ask(0, 9);
         check.same("no incident is above any more", x.incident(0, 0), 2);
+        SecondWaves y = lastOfTwelveAbove();
+        y.close(11);
+        y.top(0);
+        y.ask(10, 9);
+        check.same("a closed one above does not hinder", y.incident(10, 0), 0);
     }
 }

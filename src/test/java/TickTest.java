@@ -19,9 +19,11 @@ public final class TickTest {
         SecondWaves x = new SecondWaves();
         x.begin();
         x.trigger(2, 999, 1, 0);
+        x.trigger(2, 4999, 1, 0);
         for (int i = 0; i < 199; i++) {
             x.tick(5000);
         }
+        x.tell(0);
         x.tick(4998);
         return x;
     }
@@ -41,13 +43,14 @@ public final class TickTest {
     }
 
     private static void refusals() {
-        check.refused("tick 0", Check.RANGE, TickTest::silence100, x -> x.tick(0));
+        check.refusedOutside("tick", Check.RANGE, 1, 5000, TickTest::silence100, n -> x -> x.tick(n));
         check.refused("tick -1", Check.RANGE, TickTest::silence100, x -> x.tick(-1));
-        check.refused("tick 5,001", Check.RANGE, TickTest::silence100, x -> x.tick(5001));
-        check.refused("tick least", Check.RANGE, TickTest::silence100, x -> x.tick(Integer.MIN_VALUE));
-        check.refused("tick greatest", Check.RANGE, TickTest::silence100, x -> x.tick(Integer.MAX_VALUE));
-        check.refused("beyond the last second", Check.RANGE, TickTest::nearTheEnd, x -> x.tick(2));
-        check.refused("greatest, late", Check.RANGE, TickTest::nearTheEnd, x -> x.tick(Integer.MAX_VALUE));
+        check.refusedOutside("late tick", Check.RANGE, 1, 1, TickTest::nearTheEnd, n -> x -> x.tick(n));
+        check.refused("longest tick, late", Check.RANGE, TickTest::nearTheEnd, x -> x.tick(5000));
+        SecondWaves x = nearTheEnd();
+        check.throwing("beyond the last second", Check.RANGE, () -> x.tick(2));
+        check.same("the silence that it would have brought has not come", x.acted(1), 1);
+        check.same("it comes with the second that is left", x.tick(1), 1);
     }
 
     private static SecondWaves silence100() {

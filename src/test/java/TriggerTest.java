@@ -5,6 +5,8 @@ public final class TriggerTest {
     public static void main(String[] args) {
         numbersAndRoom();
         ranges();
+        otherKindsRanges();
+        stepsAboveTheTop();
         orderOfRefusals();
         spans();
         spanOfSilence();
@@ -48,15 +50,44 @@ public final class TriggerTest {
             SecondWaves x = twoIncidents();
             check.same("least what of kind " + kind, x.trigger(kind, low, 0, 0), 0);
             check.same("greatest what of kind " + kind, x.trigger(kind, high, 9, 100000), 1);
-            check.refused("below", Check.RANGE, TriggerTest::twoIncidents, y -> y.trigger(kind, low - 1, 0, 0));
-            check.refused("above", Check.RANGE, TriggerTest::twoIncidents, y -> y.trigger(kind, high + 1, 0, 0));
-            check.refused("span", Check.RANGE, TriggerTest::twoIncidents, y -> y.trigger(kind, low, 0, -1));
-            check.refused("span", Check.RANGE, TriggerTest::twoIncidents, y -> y.trigger(kind, low, 0, 100001));
+            check.refusedOutside("what of kind " + kind, Check.RANGE, low, high, TriggerTest::twoIncidents,
+                    n -> y -> y.trigger(kind, n, 0, 0));
+            check.refusedOutside("span of kind " + kind, Check.RANGE, 0, 100000, TriggerTest::twoIncidents,
+                    n -> y -> y.trigger(kind, low, 0, n));
+            check.refusedOutside("step of kind " + kind, Check.UNKNOWN, 0, 9, TriggerTest::twoIncidents,
+                    n -> y -> y.trigger(kind, low, n, 0));
         }
-        check.refused("kind -1", Check.UNKNOWN, TriggerTest::twoIncidents, x -> x.trigger(-1, 1, 0, 0));
-        check.refused("kind 4", Check.UNKNOWN, TriggerTest::twoIncidents, x -> x.trigger(4, 1, 0, 0));
-        check.refused("step -1", Check.UNKNOWN, TriggerTest::twoIncidents, x -> x.trigger(0, 1, -1, 0));
-        check.refused("step 10", Check.UNKNOWN, TriggerTest::twoIncidents, x -> x.trigger(0, 1, 10, 0));
+        check.refusedOutside("kind", Check.UNKNOWN, 0, 3, TriggerTest::twoIncidents, n -> x -> x.trigger(n, 1, 0, 0));
+    }
+
+    /** The ranges of one kind are not those of another. */
+    private static void otherKindsRanges() {
+        SecondWaves x = twoIncidents();
+        check.same("word 10 is no ask", x.trigger(0, 10, 0, 0), 0);
+        check.same("100 hurt are no word", x.trigger(1, 100, 0, 0), 1);
+        check.same("1,001 seconds are no hurt", x.trigger(2, 1001, 0, 0), 2);
+        check.same("ask 0 is no second", x.trigger(3, 0, 0, 0), 3);
+        check.refused("ask 10", Check.RANGE, TriggerTest::twoIncidents, y -> y.trigger(3, 10, 0, 0));
+        check.refused("word 100", Check.RANGE, TriggerTest::twoIncidents, y -> y.trigger(0, 100, 0, 0));
+        check.refused("1,001 hurt", Check.RANGE, TriggerTest::twoIncidents, y -> y.trigger(1, 1001, 0, 0));
+        check.refused("no hurt", Check.RANGE, TriggerTest::twoIncidents, y -> y.trigger(1, 0, 0, 0));
+        check.refused("no second", Check.RANGE, TriggerTest::twoIncidents, y -> y.trigger(2, 0, 0, 0));
+    }
+
+    /** A trigger may go to a step above the top: the top counts when it acts, not when it is made. */
+    private static void stepsAboveTheTop() {
+        SecondWaves x = new SecondWaves();
+        x.trigger(0, 1, 9, 0);
+        x.begin();
+        x.word(0, 1);
+        check.same("top 0", x.incident(0, 0), 0);
+        x.top(4);
+        x.word(0, 1);
+        check.same("top 4", x.incident(0, 0), 4);
+        x.top(9);
+        check.same("a new top alone lifts nobody", x.incident(0, 0), 4);
+        x.word(0, 1);
+        check.same("top 9", x.incident(0, 0), 9);
     }
 
     private static void orderOfRefusals() {
@@ -133,6 +164,12 @@ public final class TriggerTest {
         check.same("without going up", x.count(3), 2);
     }
 
+    private static SecondWaves oneTrigger() {
+        SecondWaves x = twoIncidents();
+        x.trigger(0, 1, 1, 0);
+        return x;
+    }
+
     private static void actedAtAll() {
         SecondWaves x = twoIncidents();
         x.trigger(3, 1, 3, 0);
@@ -144,8 +181,8 @@ public final class TriggerTest {
         x.close(1);
         check.same("at all incidents, open or not", x.acted(0), 3);
         check.same("one that changed nothing acted all the same", x.acted(1), 1);
-        check.refused("trigger -1", Check.UNKNOWN, TriggerTest::fullOfTriggers, y -> y.acted(-1));
-        check.refused("trigger 20", Check.UNKNOWN, TriggerTest::fullOfTriggers, y -> y.acted(20));
+        check.refusedOutside("of twenty", Check.UNKNOWN, 0, 19, TriggerTest::fullOfTriggers, n -> y -> y.acted(n));
+        check.refusedOutside("of one", Check.UNKNOWN, 0, 0, TriggerTest::oneTrigger, n -> y -> y.acted(n));
         check.refused("trigger 0 of none", Check.UNKNOWN, TriggerTest::twoIncidents, y -> y.acted(0));
     }
 }

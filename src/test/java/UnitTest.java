@@ -36,12 +36,19 @@ public final class UnitTest {
         return x;
     }
 
+    private static SecondWaves fortyAtTwelve() {
+        SecondWaves x = forty();
+        for (int i = 0; i < 12; i++) {
+            x.begin();
+        }
+        return x;
+    }
+
     private static void numbersAndRoom() {
         check.same("a new unit is free", Check.unitSeen(forty(), 39), "0 -1 -1 ");
         check.refused("unit 40", Check.ROOM, UnitTest::forty, x -> x.unit(0));
-        check.refused("skill -1", Check.UNKNOWN, UnitTest::world, x -> x.unit(-1));
-        check.refused("skill 8", Check.UNKNOWN, UnitTest::world, x -> x.unit(8));
-        check.refused("skill before room", Check.UNKNOWN, UnitTest::forty, x -> x.unit(8));
+        check.refusedOutside("skill", Check.UNKNOWN, 0, 7, UnitTest::world, n -> x -> x.unit(n));
+        check.refusedOutside("skill before room", Check.UNKNOWN, 0, 7, UnitTest::forty, n -> x -> x.unit(n));
     }
 
     private static void comingAndGoing() {
@@ -59,12 +66,13 @@ public final class UnitTest {
     }
 
     private static void goRefusals() {
-        check.refused("unit -1", Check.UNKNOWN, UnitTest::world, x -> x.go(-1, 0, 5));
-        check.refused("unit 4", Check.UNKNOWN, UnitTest::world, x -> x.go(4, 0, 5));
-        check.refused("incident -1", Check.UNKNOWN, UnitTest::world, x -> x.go(0, -1, 5));
-        check.refused("incident 2", Check.UNKNOWN, UnitTest::world, x -> x.go(0, 2, 5));
-        check.refused("distance -1", Check.RANGE, UnitTest::world, x -> x.go(0, 0, -1));
-        check.refused("distance 100,000", Check.RANGE, UnitTest::world, x -> x.go(0, 0, 100000));
+        check.refusedOutside("unit", Check.UNKNOWN, 0, 3, UnitTest::world, n -> x -> x.go(n, 0, 5));
+        check.refusedOutside("incident", Check.UNKNOWN, 0, 1, UnitTest::world, n -> x -> x.go(0, n, 5));
+        check.refusedOutside("distance", Check.RANGE, 0, 99999, UnitTest::world, n -> x -> x.go(0, 0, n));
+        check.refusedOutside("unit of forty", Check.UNKNOWN, 0, 39, UnitTest::fortyAtTwelve, n -> x -> x.go(n, 0, 5));
+        check.refusedOutside("incident of twelve", Check.UNKNOWN, 0, 11, UnitTest::fortyAtTwelve,
+                n -> x -> x.go(0, n, 5));
+        check.refused("neither unit nor incident", Check.UNKNOWN, SecondWaves::new, x -> x.go(0, 0, 0));
         check.refused("under way", Check.STATE, UnitTest::world, x -> x.go(1, 0, 5));
         check.refused("there", Check.STATE, UnitTest::world, x -> x.go(2, 0, 5));
         check.refused("closed", Check.STATE, UnitTest::world, x -> x.go(0, 1, 5));
@@ -76,8 +84,9 @@ public final class UnitTest {
     }
 
     private static void arriveRefusals() {
-        check.refused("unit -1", Check.UNKNOWN, UnitTest::world, x -> x.arrive(-1));
-        check.refused("unit 4", Check.UNKNOWN, UnitTest::world, x -> x.arrive(4));
+        check.refusedOutside("unit", Check.UNKNOWN, 0, 3, UnitTest::world, n -> x -> x.arrive(n));
+        check.refusedOutside("unit of forty", Check.UNKNOWN, 0, 39, UnitTest::forty, n -> x -> x.arrive(n));
+        check.refused("unit 0 of none", Check.UNKNOWN, SecondWaves::new, x -> x.arrive(0));
         check.refused("free", Check.STATE, UnitTest::world, x -> x.arrive(0));
         check.refused("there", Check.STATE, UnitTest::world, x -> x.arrive(2));
     }
@@ -102,19 +111,19 @@ public final class UnitTest {
     }
 
     private static void neededRefusals() {
-        check.refused("incident -1", Check.UNKNOWN, UnitTest::world, x -> x.needed(-1, 0));
-        check.refused("incident 2", Check.UNKNOWN, UnitTest::world, x -> x.needed(2, 0));
-        check.refused("skill -1", Check.UNKNOWN, UnitTest::world, x -> x.needed(0, -1));
-        check.refused("skill 8", Check.UNKNOWN, UnitTest::world, x -> x.needed(0, 8));
+        check.refusedOutside("incident", Check.UNKNOWN, 0, 1, UnitTest::world, n -> x -> x.needed(n, 0));
+        check.refusedOutside("skill", Check.UNKNOWN, 0, 7, UnitTest::world, n -> x -> x.needed(0, n));
+        check.refused("at 0 of none", Check.UNKNOWN, SecondWaves::new, x -> x.needed(0, 0));
         check.refused("closed", Check.STATE, UnitTest::world, x -> x.needed(1, 0));
-        check.refused("skill before closed", Check.UNKNOWN, UnitTest::world, x -> x.needed(1, 8));
+        check.refusedOutside("skill before closed", Check.UNKNOWN, 0, 7, UnitTest::world, n -> x -> x.needed(1, n));
     }
 
     private static void unitAtRefusals() {
-        check.refused("unit -1", Check.UNKNOWN, UnitTest::world, x -> x.unitAt(-1, 0));
-        check.refused("unit 4", Check.UNKNOWN, UnitTest::world, x -> x.unitAt(4, 0));
-        check.refused("unit 40", Check.UNKNOWN, UnitTest::forty, x -> x.unitAt(40, 0));
-        check.refused("what -1", Check.UNKNOWN, UnitTest::world, x -> x.unitAt(0, -1));
-        check.refused("what 3", Check.UNKNOWN, UnitTest::world, x -> x.unitAt(0, 3));
+        check.refusedOutside("unit", Check.UNKNOWN, 0, 3, UnitTest::world, n -> x -> x.unitAt(n, 0));
+        check.refusedOutside("unit of forty", Check.UNKNOWN, 0, 39, UnitTest::forty, n -> x -> x.unitAt(n, 2));
+        for (int unit = 0; unit < 3; unit++) {
+            int asked = unit;
+            check.refusedOutside("what", Check.UNKNOWN, 0, 2, UnitTest::world, n -> x -> x.unitAt(asked, n));
+        }
     }
 }
