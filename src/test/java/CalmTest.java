@@ -5,6 +5,7 @@ public final class CalmTest {
     public static void main(String[] args) {
         stepsDown();
         whateverActed();
+        spansRunOn();
         orderOfRecall();
         eachSkillByItself();
         noRecallWithoutCalm();
@@ -50,6 +51,27 @@ public final class CalmTest {
         check.same("down again in the same second", x.incident(0, 0), 1);
         check.same("up", x.incident(0, 5), 2);
         check.same("down", x.incident(0, 6), 2);
+    }
+
+    /** Calm is no new begin: spans run on, and neither hurt nor a silence come a second time. */
+    private static void spansRunOn() {
+        SecondWaves x = new SecondWaves();
+        x.top(3);
+        x.trigger(0, 1, 1, 20);
+        x.trigger(1, 5, 2, 0);
+        x.trigger(2, 10, 3, 0);
+        x.begin();
+        x.tick(10);
+        x.word(0, 1);
+        x.hurt(0, 5);
+        x.calm(0, 0);
+        check.same("in the same second", x.word(0, 1), 0);
+        check.same("still five hurt", x.hurt(0, 5), 0);
+        check.same("still silent", x.tick(19), 0);
+        check.same("19 of 20 seconds", x.word(0, 1), 0);
+        x.tick(1);
+        check.same("20 of 20 seconds", x.word(0, 1), 1);
+        check.same("step", x.incident(0, 0), 1);
     }
 
     /** Units 0 .. of skill 0 with these distances at incident 0; the first so many are there. */
